@@ -759,21 +759,10 @@ public final class ExamMarker {
     return (exponent << 52) | (long) ((fraction - 1.0) * 4503599627370496.0);
   }
 
+  /** A float that is 0 or normal is the same number as a double: its exponent counts from 127, not 1023. */
   private static int floatBits(float value) {
-    if (!(value > 0.0f)) {
-      return 0;
-    }
-    float fraction = value;
-    int exponent = 127;
-    for (int i = 0; i < 127 && fraction >= 2.0f; i++) {
-      fraction = fraction / 2.0f;
-      exponent++;
-    }
-    for (int i = 0; i < 126 && fraction < 1.0f; i++) {
-      fraction = fraction * 2.0f;
-      exponent--;
-    }
-    return (exponent << 23) | (int) ((fraction - 1.0f) * 8388608.0f);
+    long bits = doubleBits((double) value);
+    return bits == 0L ? 0 : (int) ((bits >>> 29) - ((1023L - 127L) << 23));
   }
 
   /** All that undo, save and restore deal with. A script's number is 5 times its candidate plus its question. */

@@ -144,6 +144,12 @@ public final class PromisesTest {
     refused("2: below a mark of a seed", STATE, () -> x.setMaximum(1, 17));
     equal("2: at a mark of a seed", x.setMaximum(1, 18), 20);
     equal("2: another question", x.setMaximum(2, 1), 20);
+    x.addSeed(3, 1);
+    x.addSeed(3, 9);
+    refused("2: below a second seed", STATE, () -> x.setMaximum(3, 8));
+    x.addSeed(4, 1);
+    x.markSeed(0, 4, 0, 6);
+    refused("2: below a mark of a seed by marker 0", STATE, () -> x.setMaximum(4, 5));
     equal("2: a refused call changes nothing", x.count(6), 25 + 18 + 1 + 20 + 20);
     ExamMarker y = new ExamMarker();
     suspend(y, 0, 0);
@@ -220,6 +226,9 @@ public final class PromisesTest {
     equal("5: deviation above", x.markSeed(3, 2, 0, 20), 8);
     equal("5: marks", x.count(3), 2);
     equal("5: pay", x.account(0), 30);
+    x.addSeed(0, 1);
+    x.markSeed(0, 0, 0, 1);
+    equal("5: marks with the very first", x.count(3), 3);
     x.publish();
     refused("5: published before marked already", UNSUPPORTED, () -> x.markSeed(0, 2, 0, 0));
     refused("5: range before published", ARGUMENT, () -> x.markSeed(0, 2, 0, 21));
@@ -542,6 +551,8 @@ public final class PromisesTest {
     equal("16: fifth", x.setPoint(199, 100), 5);
     refused("16: sixth", STATE, () -> x.setPoint(1, 1));
     equal("16: set with five", x.setPoint(200, 100), 5);
+    equal("16: set the first with five", x.setPoint(0, 1), 5);
+    equal("16: set the second with five", x.setPoint(50, 20), 5);
     refused("16: place above", ARGUMENT, () -> x.setPoint(201, 0));
     refused("16: place below", ARGUMENT, () -> x.setPoint(-1, 0));
     refused("16: value above", ARGUMENT, () -> x.setPoint(1, 101));
@@ -569,6 +580,13 @@ public final class PromisesTest {
     equal("17: one point is no curve", x.curve(50), 50);
     equal("17: the last", x.removePoint(100), 50);
     refused("17: none is left", NONE, () -> x.removePoint(100));
+    for (int i = 0; i < 5; i++) {
+      x.setPoint(10 * i, 20 * i);
+    }
+    x.removePoint(0);
+    for (int i = 1; i < 5; i++) {
+      equal("17: those behind it are left", x.curve(10 * i), 20 * i);
+    }
     ExamMarker p = published();
     refused("17: published before no point", UNSUPPORTED, () -> p.removePoint(0));
   }
@@ -601,6 +619,11 @@ public final class PromisesTest {
     equal("18: a falling curve, rounded up", x.curve(21), 43);
     equal("18: the value of the last", x.curve(31), 40);
     equal("18: the middle point", x.curve(20), 43);
+    ExamMarker steep = new ExamMarker();
+    steep.setPoint(10, 40);
+    steep.setPoint(11, 50);
+    equal("18: a steep curve", steep.curve(11), 50);
+    equal("18: a steep curve, below", steep.curve(10), 40);
   }
 
   private static void promise19() {
@@ -618,6 +641,8 @@ public final class PromisesTest {
     refused("19: the first, not greater", ARGUMENT, () -> x.setBoundary(0, 51));
     refused("19: the last, not less", ARGUMENT, () -> x.setBoundary(3, 50));
     equal("19: the same again", x.setBoundary(2, 50), 50);
+    refused("19: the third, not greater", ARGUMENT, () -> x.setBoundary(2, 1));
+    equal("19: the third, just greater", x.setBoundary(2, 2), 50);
     ExamMarker p = published();
     refused("19: published", UNSUPPORTED, () -> p.setBoundary(0, 71));
     refused("19: range before published", ARGUMENT, () -> p.setBoundary(0, 60));
@@ -704,6 +729,17 @@ public final class PromisesTest {
     graded("to the last but one", x, 38, 4, 3);
     x.setMaximum(0, 21);
     graded("hundredths of the maximum", x, 38, 4, 4);
+    x = new ExamMarker();
+    for (int question = 0; question < 5; question++) {
+      x.setMaximum(question, 3);
+    }
+    x.setBoundary(0, 67);
+    x.setPoint(0, 66);
+    x.setPoint(1, 66);
+    fill(x, 0, 0, 2, 2, 2, 2, 2);
+    graded("two thirds are less than 67 hundredths", x, 66, 1, 1);
+    x.setBoundary(0, 66);
+    graded("at the boundary", x, 66, 0, 0);
   }
 
   private static void promise21() {
@@ -735,6 +771,13 @@ public final class PromisesTest {
     p.appeal(0, 1);
     p.remark(1, 0, 1, 20);
     equal("21: a remark that counts", p.recount(0), 7200);
+    p.appeal(0, 4);
+    p.remark(1, 0, 4, 0);
+    equal("21: two of them", p.recount(0), 6000);
+    ExamMarker f = published();
+    f.appeal(0, 0);
+    f.remark(1, 0, 0, 20);
+    equal("21: a remark of the first question", f.recount(0), 7200);
     ExamMarker e = new ExamMarker();
     fill(e, 0, 0, 10, 10, 10, 10, 10);
     e.excuse(0, 2, true);
@@ -921,6 +964,10 @@ public final class PromisesTest {
     equal("28: it is", x.count(5), 1);
     refused("28: again", STATE, x::publish);
     reported("28: again leaves the report", x, 2, 3, 22, 1);
+    ExamMarker first = new ExamMarker();
+    first.enter(0, 0, 4, 1);
+    refused("28: the first question", UNSUPPORTED, first::publish);
+    reported("28: the first question", first, 2, 0, 21, 0);
     equal("28: without candidates", new ExamMarker().publish(), 0);
     ExamMarker y = new ExamMarker();
     fill(y, 0, 0, 1, 1, 1, 1, 1);
@@ -1063,6 +1110,8 @@ public final class PromisesTest {
     for (int what = 0; what <= 8; what++) {
       equal("32: account(" + what + ")", x.account(what), due[what]);
     }
+    x.appeal(0, 0);
+    equal("32: the first script is open", x.account(8), 2);
   }
 
   private static void promise33And34() {
@@ -1148,72 +1197,67 @@ public final class PromisesTest {
     equal("36: the entry is gone", y.count(0), 0);
   }
 
+  /** The change counts as one, and undo takes it back; at most 6 of them are kept. */
+  private static void undone(String what, ExamMarker x, Runnable change) {
+    int due = Math.min(6, x.count(8) + 1);
+    change.run();
+    equal("36: changes after " + what, x.count(8), due);
+    equal("36: undo of " + what, x.undo(), due - 1);
+  }
+
   private static void undoesEachChange() {
     ExamMarker x = new ExamMarker();
-    x.setMaximum(0, 30);
-    x.undo();
+    undone("setMaximum", x, () -> x.setMaximum(0, 30));
     equal("36: setMaximum", x.count(6), 100);
-    x.set(4, 1);
-    x.undo();
-    equal("36: set", x.set(4, 30), 30);
-    x.addSeed(0, 5);
-    x.undo();
+    undone("set", x, () -> x.set(4, 1));
+    undone("addSeed", x, () -> x.addSeed(0, 5));
     equal("36: addSeed", x.addSeed(0, 9), 0);
-    x.markSeed(0, 0, 0, 19);
-    x.undo();
+    undone("markSeed", x, () -> x.markSeed(0, 0, 0, 19));
     equal("36: markSeed", x.isSuspended(0, 0), false);
     equal("36: pay for a mark of a seed", x.account(0), 0);
-    x.enter(0, 0, 0, 1);
-    x.undo();
+    undone("enter", x, () -> x.enter(0, 0, 0, 1));
     equal("36: enter", x.script(0, 0, 1), 0);
     equal("36: pay for an entry", x.account(4), 0);
     Sheets.put(x, "1/1:1=1,2=2");
-    x.sheet();
-    x.undo();
+    undone("sheet", x, x::sheet);
     equal("36: sheet", x.count(0), 0);
-    x.excuse(0, 0, true);
-    x.undo();
-    equal("36: excuse", x.excuse(0, 0, false), false);
-    x.raise(0, 5);
-    x.undo();
-    equal("36: raise", x.raise(0, 0), 0);
+    undone("excuse", x, () -> x.excuse(0, 0, true));
+    undone("raise", x, () -> x.raise(0, 5));
+    undone("setPoint", x, () -> x.setPoint(1, 1));
+    equal("36: setPoint", x.count(4), 0);
     x.setPoint(5, 5);
-    x.setPoint(1, 1);
-    x.undo();
-    equal("36: setPoint", x.count(4), 1);
-    equal("36: setPoint, the one before", x.removePoint(5), 5);
-    x.undo();
-    equal("36: removePoint", x.removePoint(5), 5);
-    x.setBoundary(0, 90);
-    x.undo();
-    equal("36: setBoundary", x.setBoundary(0, 70), 70);
+    undone("removePoint", x, () -> x.removePoint(5));
+    equal("36: removePoint", x.count(4), 1);
+    undone("setBoundary", x, () -> x.setBoundary(0, 90));
     x.save();
     x.raise(1, 1);
-    x.restore();
-    x.undo();
+    undone("restore", x, x::restore);
     equal("36: restore", x.raise(1, 1), 1);
+    equal("36: the setting is as before", x.set(4, 30), 30);
+    equal("36: the excuse is as before", x.excuse(0, 0, false), false);
+    equal("36: the raise is as before", x.raise(0, 0), 0);
+    equal("36: the boundary is as before", x.setBoundary(0, 70), 70);
   }
 
   private static void undoesPublicationAndAppeals() {
     ExamMarker x = published();
     x.undo();
+    undone("publish", x, x::publish);
     equal("36: publish", x.count(5), 0);
     x.publish();
-    x.withdraw();
-    x.undo();
+    undone("withdraw", x, x::withdraw);
     equal("36: withdraw", x.count(5), 1);
-    x.appeal(0, 0);
-    x.undo();
+    undone("appeal", x, () -> x.appeal(0, 0));
     equal("36: appeal", x.account(7), 0);
     equal("36: the fee of an appeal", x.account(5), 0);
     x.appeal(0, 0);
-    x.remark(1, 0, 0, 20);
-    equal("36: before", x.account(6), 30);
-    x.undo();
+    undone("remark", x, () -> x.remark(1, 0, 0, 20));
     equal("36: remark", x.script(0, 0, 4), 1);
     equal("36: the refund of a remark", x.account(6), 0);
     equal("36: the pay of a remark", x.account(1), 0);
     equal("36: the mark of a remark", x.script(0, 0, 0), 1200);
+    x.remark(1, 0, 0, 0);
+    equal("36: another mark in its place", x.script(0, 0, 0), 0);
   }
 
   private static void promise37And38() {
@@ -1237,6 +1281,7 @@ public final class PromisesTest {
     equal("38: undo", x.undo(), 5);
     equal("38: undone", x.count(0), 3);
     savesAll();
+    savesWhatIsInside();
     ExamMarker p = published();
     p.save();
     p.appeal(0, 0);
@@ -1247,6 +1292,30 @@ public final class PromisesTest {
     equal("38: published", p.withdraw(), 1);
     p.restore();
     equal("38: published again", p.count(5), 1);
+  }
+
+  private static void savesWhatIsInside() {
+    ExamMarker x = new ExamMarker();
+    x.enter(0, 0, 0, 5);
+    x.addSeed(0, 3);
+    x.save();
+    x.undo();
+    x.undo();
+    x.enter(1, 7, 1, 7);
+    x.addSeed(0, 9);
+    equal("38: one entry in the place of another", x.restore(), 1);
+    equal("38: its script", x.recount(0), 600);
+    equal("38: its marker", x.entry(0, 0, 0, 0), 0);
+    equal("38: its pay", x.account(1), 0);
+    equal("38: the definitive mark", x.markSeed(2, 0, 0, 3), 0);
+    ExamMarker p = published();
+    p.appeal(0, 0);
+    p.remark(1, 0, 0, 20);
+    p.save();
+    p.undo();
+    p.remark(1, 0, 0, 19);
+    p.restore();
+    equal("38: the mark of a remark", p.script(0, 0, 0), 2400);
   }
 
   private static void savesAll() {
