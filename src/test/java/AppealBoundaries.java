@@ -182,8 +182,8 @@ final class AppealBoundaries extends Boundary {
           ExamMarker::withdraw, 1);
       gives("one that was refused", PUBLISHED.andThen(x -> answer(x, y -> y.appeal(1, 0))), ExamMarker::withdraw, 1);
     });
-    test(29, "Results that are published cannot be withdrawn if an appeal was made, also if its remark was made.",
-        () -> {
+    test(29, "Results that are published cannot be withdrawn if an appeal was made, also if its remark was "
+        + "made.", () -> {
       Consumer<ExamMarker> open = PUBLISHED.andThen(appealed(0, 4));
       refuses("a remark that counts", UNSUPPORTED, open.andThen(x -> x.remark(1, 0, 4, 14)), ExamMarker::withdraw);
       refuses("one that does not", UNSUPPORTED, open.andThen(x -> x.remark(1, 0, 4, 13)), ExamMarker::withdraw);
@@ -226,19 +226,33 @@ final class AppealBoundaries extends Boundary {
     });
   }
 
-  /** All candidates have made three appeals, for scripts next to those of this one, which has made so many. */
-  private static Consumer<ExamMarker> everybody(int candidate, int appeals) {
+  private static Consumer<ExamMarker> everybodyMarked() {
     return x -> {
-      for (int other = 0; other < 8; other++) {
-        fill(x, 0, other, 1, 1, 1, 1, 1);
+      for (int candidate = 0; candidate < 8; candidate++) {
+        fill(x, 0, candidate, 1, 1, 1, 1, 1);
       }
       x.publish();
+    };
+  }
+
+  /** Only this candidate has made appeals. */
+  private static Consumer<ExamMarker> alone(int candidate, int appeals) {
+    return everybodyMarked().andThen(x -> {
+      for (int question = 0; question < appeals; question++) {
+        x.appeal(candidate, question);
+      }
+    });
+  }
+
+  /** All candidates have made three appeals, for scripts next to those of this one, which has made so many. */
+  private static Consumer<ExamMarker> everybody(int candidate, int appeals) {
+    return everybodyMarked().andThen(x -> {
       for (int other = 0; other < 8; other++) {
         for (int number = 0; number < (other == candidate ? appeals : 3); number++) {
           x.appeal(other, other < candidate ? 4 - number : number);
         }
       }
-    };
+    });
   }
 
   private static void refusedAppeals() {
@@ -288,6 +302,8 @@ final class AppealBoundaries extends Boundary {
         int candidate = i;
         gives("a third of " + i, everybody(candidate, 2), x -> x.appeal(candidate, 4), 30);
         reports("a fourth of " + i, everybody(candidate, 3), x -> x.appeal(candidate, 4), 3, candidate, 34, 3);
+        gives("a third of " + i + " alone", alone(candidate, 2), x -> x.appeal(candidate, 4), 30);
+        reports("a fourth of " + i + " alone", alone(candidate, 3), x -> x.appeal(candidate, 4), 3, candidate, 34, 3);
       }
       gives("the third was taken back", five.andThen(appealed(7, 0, 1, 2)).andThen(ExamMarker::undo),
           x -> x.appeal(7, 4), 30);
@@ -625,8 +641,8 @@ final class AppealBoundaries extends Boundary {
       range(ARGUMENT, 0, 1, told, (x, n) -> x.report(0, n), 3, 7);
       range(ARGUMENT, 0, 1, told, (x, n) -> x.report(1, n), 31, 0);
     });
-    test(34, "A refusal of enter, sheet, publish, appeal or remark leaves a report, which replaces the earlier one.",
-        () -> {
+    test(34, "A refusal of enter, sheet, publish, appeal or remark leaves a report, which replaces the "
+        + "earlier one.", () -> {
       Consumer<ExamMarker> entry = told.andThen(x -> x.enter(2, 3, 4, 1));
       reports("enter", entry, x -> x.enter(2, 3, 4, 1), 1, 0, 13, 2);
       refusesSheet("sheet", entry, "2/4:7=1,3=1", 1, 1, 13, 2);

@@ -397,8 +397,8 @@ final class ChangeBoundaries extends Boundary {
   }
 
   private static void unchanged() {
-    test(36, "A method that throws an exception leaves the state unchanged, unless its description says otherwise.",
-        () -> {
+    test(36, "A method that throws an exception leaves the state unchanged, unless its description says "
+        + "otherwise.", () -> {
       Consumer<ExamMarker> six = SOMETHING.andThen(x -> {
         x.save();
         x.append('3');

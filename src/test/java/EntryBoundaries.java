@@ -154,8 +154,8 @@ final class EntryBoundaries extends Boundary {
       gives("the first is not valid", entered(10, 13).andThen(x -> suspend(x, 0, 0)), x -> x.enter(2, 0, 0, 0), 3);
       gives("the second is not valid", entered(10, 13).andThen(x -> suspend(x, 1, 0)), x -> x.enter(2, 0, 0, 0), 3);
     });
-    test(8, "Two values agree if they differ by at most the tolerance, which is from 0 to 10 points, at first 3.",
-        () -> {
+    test(8, "Two values agree if they differ by at most the tolerance, which is from 0 to 10 points, at "
+        + "first 3.", () -> {
       for (int i = 0; i <= 10; i++) {
         int tolerance = i;
         agree("at " + i, tolerance, NOTHING, 5, 5 + i, true);
@@ -362,8 +362,8 @@ final class EntryBoundaries extends Boundary {
         x.enter(1, 3, 0, 9);
       }, eight, 1, 3, 13, 1);
     });
-    test(10, "Makes the entries of the sheet in the buffer, one after the other; if one is refused, none is made.",
-        () -> {
+    test(10, "Makes the entries of the sheet in the buffer, one after the other; if one is refused, none "
+        + "is made.", () -> {
       gives("all of eight", written(eight), ExamMarker::sheet, 8);
       refusesSheet("a ninth", NOTHING, eight + ",4=2", 1, 8, 13, 1);
       refusesSheet("fourteen", NOTHING, eight + ",0=2,1=1,2=1,3=1,4=1,5=1", 1, 8, 13, 1);

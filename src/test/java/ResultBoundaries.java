@@ -89,8 +89,8 @@ final class ResultBoundaries extends Boundary {
         gives("of another candidate, " + i, excused(7, question, next), x -> x.excuse(6, third, true), false);
       }
     });
-    test(14, "at most 2 questions are excused, and there is a raise from 0 to 10 percent, at first none and 0",
-        () -> {
+    test(14, "at most 2 questions are excused, and there is a raise from 0 to 10 percent, at first none "
+        + "and 0", () -> {
       for (int script = 0; script < 40; script++) {
         int candidate = script / 5;
         int question = script % 5;
@@ -389,9 +389,9 @@ final class ResultBoundaries extends Boundary {
     test(20, "- `candidate`: the candidate", () -> gives("the last", ends, x -> x.result(7, 0), 240L));
     test(20, NO_CANDIDATE, () -> range(INDEX, 0, 7, ends, (x, n) -> x.result(n, 0), 120L, 240L));
     test(20, "if what is not from 0 to 5", () -> range(ARGUMENT, 0, 5, ends, (x, n) -> x.result(7, n), 240L, 0L));
-    test(20, "- `what`: 0 for the numerator and 1 for the denominator of the raw result in units, in lowest terms; "
-        + "2 for the scaled mark; 3 for the plain grade; 4 for the grade; 5 for 1 if it is lifted, otherwise 0",
-        () -> {
+    test(20, "- `what`: 0 for the numerator and 1 for the denominator of the raw result in units, in "
+        + "lowest terms; 2 for the scaled mark; 3 for the plain grade; 4 for the grade; 5 for 1 if it is "
+        + "lifted, otherwise 0", () -> {
       Consumer<ExamMarker> lifted = filled(14, 14, 14, 14, 12);
       long[] due = {8160, 1, 68, 1, 0, 1};
       for (int i = 0; i < 6; i++) {

@@ -110,46 +110,46 @@ final class SeedBoundaries extends Boundary {
   }
 
   private static void maximaAndMarks() {
-    test(2, "if an entry or the definitive mark or a mark of a seed of this question would be greater than it",
-        () -> {
-          holdsMaximum("the first entry of all scripts", 0, x -> x.enter(0, 0, 0, 15));
-          holdsMaximum("an entry of the last script", 4, x -> x.enter(3, 7, 4, 15));
-          holdsMaximum("a second entry", 1, x -> {
-            x.enter(0, 3, 1, 0);
-            x.enter(1, 3, 1, 15);
-          });
-          holdsMaximum("a third entry", 1, x -> {
-            x.enter(0, 3, 1, 0);
-            x.enter(1, 3, 1, 9);
-            x.enter(2, 3, 1, 15);
-          });
-          holdsMaximum("an entry of a suspended marker", 3, x -> {
-            suspend(x, 2, 3);
-            x.enter(2, 7, 3, 15);
-          });
-          for (int seed = 0; seed < 5; seed++) {
-            int great = seed;
-            holdsMaximum("definitive mark of seed " + seed, 4, x -> {
-              for (int i = 0; i < 5; i++) {
-                x.addSeed(4, i == great ? 15 : 3);
-              }
-            });
-            holdsMaximum("mark of seed " + seed, 0, x -> {
-              for (int i = 0; i < 5; i++) {
-                x.addSeed(0, 3);
-                x.markSeed(3, 0, i, i == great ? 15 : 3);
-              }
-            });
+    test(2, "if an entry or the definitive mark or a mark of a seed of this question would be greater than "
+        + "it", () -> {
+      holdsMaximum("the first entry of all scripts", 0, x -> x.enter(0, 0, 0, 15));
+      holdsMaximum("an entry of the last script", 4, x -> x.enter(3, 7, 4, 15));
+      holdsMaximum("a second entry", 1, x -> {
+        x.enter(0, 3, 1, 0);
+        x.enter(1, 3, 1, 15);
+      });
+      holdsMaximum("a third entry", 1, x -> {
+        x.enter(0, 3, 1, 0);
+        x.enter(1, 3, 1, 9);
+        x.enter(2, 3, 1, 15);
+      });
+      holdsMaximum("an entry of a suspended marker", 3, x -> {
+        suspend(x, 2, 3);
+        x.enter(2, 7, 3, 15);
+      });
+      for (int seed = 0; seed < 5; seed++) {
+        int great = seed;
+        holdsMaximum("definitive mark of seed " + seed, 4, x -> {
+          for (int i = 0; i < 5; i++) {
+            x.addSeed(4, i == great ? 15 : 3);
           }
-          holdsMaximum("a mark of a seed by marker 0", 4, x -> {
-            x.addSeed(4, 0);
-            x.markSeed(0, 4, 0, 15);
-          });
-          gives("marks of 1", x -> {
-            deviate(x, 0, 0, 1);
-            x.enter(0, 0, 0, 1);
-          }, x -> x.setMaximum(0, 1), 20);
         });
+        holdsMaximum("mark of seed " + seed, 0, x -> {
+          for (int i = 0; i < 5; i++) {
+            x.addSeed(0, 3);
+            x.markSeed(3, 0, i, i == great ? 15 : 3);
+          }
+        });
+      }
+      holdsMaximum("a mark of a seed by marker 0", 4, x -> {
+        x.addSeed(4, 0);
+        x.markSeed(0, 4, 0, 15);
+      });
+      gives("marks of 1", x -> {
+        deviate(x, 0, 0, 1);
+        x.enter(0, 0, 0, 1);
+      }, x -> x.setMaximum(0, 1), 20);
+    });
   }
 
   private static void setting(String sentence, int what, int least, int greatest, int first) {
@@ -168,14 +168,14 @@ final class SeedBoundaries extends Boundary {
     setting("the fee, from 0 to 99 and at first 30", 4, 0, 99, 30);
     test(3, "if what is not from 0 to 4", () ->
         range(INDEX, 0, 4, NOTHING, (x, n) -> x.set(n, 1), 1, 30));
-    test(3, "- `what`: 0 for the band, 1 for the limit, 2 for the tolerance, 3 for the distance, 4 for the fee",
-        () -> {
-          int[] first = {1, 6, 3, 2, 30};
-          for (int i = 0; i < 5; i++) {
-            int what = i;
-            gives("setting " + i, NOTHING, x -> x.set(what, first[what]), first[what]);
-          }
-        });
+    test(3, "- `what`: 0 for the band, 1 for the limit, 2 for the tolerance, 3 for the distance, 4 for the "
+        + "fee", () -> {
+      int[] first = {1, 6, 3, 2, 30};
+      for (int i = 0; i < 5; i++) {
+        int what = i;
+        gives("setting " + i, NOTHING, x -> x.set(what, first[what]), first[what]);
+      }
+    });
     test(3, "if the value is out of range", () -> {
       int[] least = {0, 1, 0, 0, 0};
       int[] greatest = {5, 40, 10, 5, 99};
@@ -218,14 +218,14 @@ final class SeedBoundaries extends Boundary {
     });
     test(4, "- `mark`: its definitive mark", () ->
         gives("deviation from it", x -> x.addSeed(0, 20), x -> x.markSeed(0, 0, 0, 0), -20));
-    test(4, "A question has at most 5 seeds, numbered from 0, each with a definitive mark from 0 to the maximum.",
-        () -> {
-          for (int size = 0; size < 5; size++) {
-            gives("number " + size, seeded(4, size), x -> x.addSeed(4, 0), size);
-          }
-          gives("full in all questions", seeded(0, 5).andThen(seeded(1, 5)).andThen(seeded(2, 5))
-              .andThen(seeded(3, 5)).andThen(seeded(4, 5)), x -> x.count(2), 25);
-        });
+    test(4, "A question has at most 5 seeds, numbered from 0, each with a definitive mark from 0 to the "
+        + "maximum.", () -> {
+      for (int size = 0; size < 5; size++) {
+        gives("number " + size, seeded(4, size), x -> x.addSeed(4, 0), size);
+      }
+      gives("full in all questions", seeded(0, 5).andThen(seeded(1, 5)).andThen(seeded(2, 5))
+          .andThen(seeded(3, 5)).andThen(seeded(4, 5)), x -> x.count(2), 25);
+    });
     test(4, "if the question has 5 seeds", () -> {
       for (int i = 0; i < 5; i++) {
         int question = i;
