@@ -5,15 +5,19 @@ import java.util.ArrayList;
 import java.util.List;
 
 /**
- * A test for each sentence of the document that names a boundary. It also checks that each of them quotes the document,
- * and that no sentence of the description, no parameter and no exception of a promise is left without a test.
+ * A test for each sentence of the document that names a boundary, and for each that says what a method does or returns.
+ * It also checks that each of them quotes the document, and that no sentence of the description or of a promise, no
+ * parameter and no exception is left without a test.
  */
 public final class BoundariesTest {
   private static final Path DOCUMENT = Path.of("../shared/DOC.md");
+  private static final String SENTENCES = "(?<=\\.) (?=[A-Z])";
 
-  /** Sentences of the description that hold nothing to be tested. */
+  /** Sentences that hold nothing to be tested: two of the description, and the names of groups of promises. */
   private static final List<String> NO_BOUNDARY = List.of("The class is not thread-safe.",
-      "The constructor and the methods follow, a promise each: the signature, then what it does.");
+      "The constructor and the methods follow, a promise each: the signature, then what it does.",
+      "Settings and seeds.", "Entries.", "Circumstances, curve, boundaries.", "Results.",
+      "Publication and appeals.", "Reports, counts, undo, snapshots.");
 
   public static void main(String[] args) throws IOException {
     SeedBoundaries.run();
@@ -22,6 +26,7 @@ public final class BoundariesTest {
     AppealBoundaries.run();
     ChangeBoundaries.run();
     OrderBoundaries.run();
+    PromiseSentences.run();
     quotes(Files.readString(DOCUMENT));
     Check.end();
   }
@@ -45,7 +50,7 @@ public final class BoundariesTest {
 
   private static void describe(String description) {
     for (String paragraph : description.split("\n\n")) {
-      for (String sentence : inOneLine(paragraph).split("(?<=\\.) (?=[A-Z])")) {
+      for (String sentence : inOneLine(paragraph).split(SENTENCES)) {
         boolean bare = sentence.isEmpty() || sentence.startsWith("## ") || sentence.matches("[A-Z][a-z]+( marks)?\\.");
         if (!bare && !NO_BOUNDARY.contains(sentence)) {
           tested(sentence, Boundary.tests());
@@ -58,9 +63,13 @@ public final class BoundariesTest {
     List<Boundary.Named> own = new ArrayList<>(Boundary.tests());
     own.removeIf(test -> test.promise() != promise);
     Check.equal("promise " + promise + " has tests", own.isEmpty(), false);
-    for (String line : section.split("\n")) {
-      if (line.startsWith("- `") || line.startsWith("Throws")) {
-        tested(inOneLine(line), own);
+    for (String paragraph : section.substring(section.indexOf('\n')).split("\n\n|\n(?=- `)|\n(?=#)")) {
+      String text = inOneLine(paragraph);
+      boolean whole = text.startsWith("- `") || text.startsWith("Throws");
+      for (String sentence : whole ? new String[] {text} : text.split(SENTENCES)) {
+        if (!sentence.isEmpty() && !sentence.startsWith("`") && !NO_BOUNDARY.contains(sentence)) {
+          tested(sentence, own);
+        }
       }
     }
   }

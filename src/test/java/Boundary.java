@@ -105,7 +105,7 @@ abstract class Boundary {
     try {
       return call.on(x);
     } catch (RuntimeException e) {
-      return e.getClass();
+      return Check.kind(e);
     }
   }
 

@@ -29,9 +29,17 @@ final class Check {
     try {
       got = call.run();
     } catch (RuntimeException e) {
-      got = e.getClass();
+      got = kind(e);
     }
     equal(what, got, due);
+  }
+
+  /** The class of an exception that the program threw itself, and otherwise what tells that it did not. */
+  static Object kind(Throwable e) {
+    StackTraceElement[] calls = e.getStackTrace();
+    boolean inside = calls.length > 0 && calls[0].getClassName().startsWith("ExamMarker");
+    boolean told = e.getMessage() != null && !e.getMessage().equals("/ by zero");
+    return inside && told ? e.getClass() : "not thrown by the program itself: " + e;
   }
 
   static void end() {

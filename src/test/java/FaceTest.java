@@ -57,7 +57,9 @@ public final class FaceTest {
     face();
     noOtherMembers();
     sizes();
-    source(Files.readString(Path.of("src/main/java/ExamMarker.java"), StandardCharsets.ISO_8859_1));
+    String source = Files.readString(Path.of("src/main/java/ExamMarker.java"), StandardCharsets.ISO_8859_1);
+    source(source);
+    declarations(source, Files.readString(Path.of("../shared/DOC.md")));
     Check.end();
   }
 
@@ -136,6 +138,20 @@ public final class FaceTest {
     }
   }
 
+  /** Each declaration of the public face, and each signature of a promise, is in the source, its names included. */
+  private static void declarations(String source, String document) {
+    String text = source.replaceAll("\\s+", " ");
+    Matcher matcher = Pattern.compile("(?m)^    (public .*);$|^`([A-Za-z].*)`$").matcher(document);
+    int found = 0;
+    while (matcher.find()) {
+      String declaration = matcher.group(1) != null ? matcher.group(1) : "public " + matcher.group(2);
+      String due = declaration.replace("java.util.", "") + " {";
+      Check.equal(due + " is in the source", text.contains(due), true);
+      found++;
+    }
+    Check.equal("declarations in the document", found, 2 * (FACE.length + 1));
+  }
+
   private static void source(String text) {
     Check.equal("signs from 1 to 127", text.chars().allMatch(c -> c >= 1 && c <= 127), true);
     Check.equal("a package line", Pattern.compile("(?m)^package").matcher(text).find(), false);
@@ -147,7 +163,8 @@ public final class FaceTest {
     Check.equal("imports", imports, new TreeSet<>(Set.of("java.util.Arrays", "java.util.NoSuchElementException")));
     String code = text.replaceAll("(?s)/\\*.*?\\*/", "").replaceAll("//.*", "");
     String bare = code.replaceAll("\"[^\"]*\"", "\"\"");
-    String banned = "->|::|Exact\\(|static\\s*\\{|\\b(try|catch|finally|assert|synchronized|instanceof|Double|Float|Random)\\b";
+    String banned = "->|::|Exact\\(|static\\s*\\{"
+        + "|\\b(try|catch|finally|assert|synchronized|instanceof|Double|Float|Random)\\b";
     Matcher found = Pattern.compile(banned).matcher(bare);
     Check.equal("something banned in the code", found.find() ? found.group() : "", "");
     Check.equal("texts joined by +", Pattern.compile("\"\\s*\\+|\\+\\s*\"").matcher(bare).find(), false);

@@ -65,7 +65,10 @@ public final class ModelTest {
     try {
       return String.valueOf(method.invoke(object, arguments));
     } catch (InvocationTargetException e) {
-      return e.getCause().getClass().getName();
+      Throwable cause = e.getCause();
+      return object instanceof ExamMarker && Check.kind(cause) != cause.getClass()
+          ? String.valueOf(Check.kind(cause))
+          : cause.getClass().getName();
     } catch (IllegalAccessException e) {
       return e.toString();
     }
